@@ -19,6 +19,7 @@ public final class AlternativeTest {
         timerInput();
         order();
         leavingTheRow();
+        restOfTheRow();
         tooMany();
         clocks();
         Check.finish();
@@ -139,6 +140,12 @@ public final class AlternativeTest {
         Check.due("taltwt of a time gone by", net.register(0, 0), 7);
         Check.due("W[-3] then", local(net, -3), DONE);
         Check.due("W[-5] then", local(net, -5), 101);
+        code = new Code().ldc(100).opr(84).opr(78).ldc(101).ldc(1).opr(71).opr(81);
+        net = with(code, 1, new int[][] {});
+        net.run(127 - code.size());
+        Check.due("its time is W[-5]", net.register(0, 16), 1);
+        net.run(1);
+        Check.due("and no more", net.register(0, 16), 0);
         code = new Code().opr(78).opr(81);
         net = with(code, 1, new int[][] {});
         Check.due("taltwt without a time", net.register(0, 6), 2);
@@ -290,6 +297,50 @@ public final class AlternativeTest {
         Check.due("and first, too", net.register(0, 11), Code.W);
     }
 
+    /** Some leave the row, the others stay there in their order. */
+    private static void restOfTheRow() {
+        TransputerNet net = new TransputerNet(1);
+        Code code = new Code().ldc(OTHER).opr(57).ldc(34800).opr(57).ldc(12).opr(43).ldc(9).stop();
+        code.begin(net, 0, 0);
+        Code.setWord(net, 0, OTHER - 2, 33200);
+        new Code().ldc(14).opr(43).stop().load(net, 0, 33200);
+        Code.setWord(net, 0, 34800 - 2, 33250);
+        new Code().ldc(13).opr(43).stop().load(net, 0, 33250);
+        net.run(52);
+        Check.due("the first is due", net.register(0, 5), Code.W);
+        Check.due("two wait", net.register(0, 16), 2);
+        net.run(4);
+        Check.due("the last is due", net.register(0, 5), 34800);
+        Check.due("one waits", net.register(0, 16), 1);
+        net.run(4);
+        Check.due("the second is due", net.register(0, 5), OTHER);
+        Check.due("none waits", net.register(0, 16), 0);
+
+        net = new TransputerNet(1);
+        Code third = new Code().ldc(CHANNEL).ldc(77).opr(15);
+        code = new Code().ldc(OTHER).opr(57).ldc(34800).opr(57).ldc(34600).opr(57)
+                .ldc(40).opr(43).stop();
+        code.begin(net, 0, 0);
+        Code.setWord(net, 0, CHANNEL, OTHER);
+        Code.setWord(net, 0, OTHER - 2, 33200);
+        new Code().ldc(41).opr(43).stop().load(net, 0, 33200);
+        Code.setWord(net, 0, 34800 - 2, 33250);
+        new Code().ldc(42).opr(43).stop().load(net, 0, 33250);
+        Code.setWord(net, 0, 34600 - 2, 33300);
+        third.load(net, 0, 33300);
+        net.run(120);
+        Check.due("one left by an out", net.register(0, 16), 2);
+        net.run(164 - 120 - 1);
+        Check.due("the first waits yet", net.register(0, 16), 2);
+        net.run(1);
+        Check.due("it is due", net.register(0, 5), Code.W);
+        net.run(171 - 164);
+        Check.due("the third waits", net.register(0, 16), 1);
+        net.run(1);
+        Check.due("the third is due", net.register(0, 5), 34800);
+        Check.due("at its time", net.register(0, 16), 0);
+    }
+
     /** One process lets itself wait again and again, as a low one starts it anew. */
     private static void tooMany() {
         TransputerNet net = new TransputerNet(1);
@@ -320,6 +371,8 @@ public final class AlternativeTest {
         net.run((ticks + 3) / 4 * 4 - ticks);
         Check.due("clock 0 turned over", net.register(0, 13), ticks % 4 == 0 ? 65535 : 0);
         Check.due("clock 1 was set", net.register(0, 14), 65535);
+        net.run(64);
+        Check.due("clock 1 turned over", net.register(0, 14), 0);
         net = with(new Code().ldc(500).opr(84).opr(34), 1, new int[][] {});
         Check.due("ldtimer of a low one", net.register(0, 0), 500);
         net = with(new Code().ldc(500).opr(84).raw(0x40).raw(0x40).raw(0x40).raw(0x40).opr(34), 0,

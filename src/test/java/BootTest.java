@@ -6,6 +6,7 @@ public final class BootTest {
         peekHoldsTheLink();
         beyond();
         code();
+        outputBehindPeek();
         shortest();
         longest();
         leastLink();
@@ -115,6 +116,18 @@ public final class BootTest {
         Check.due("B was", Code.word(net, 0, 32808 + 4), 32769);
         Check.due("C was", Code.word(net, 0, 32808 + 6), 32776 + 4);
         Check.due("start again", net.start(0, 32804, 36000, 1), false);
+    }
+
+    /** What a PEEK gave to the output is not seen by the process that uses it then. */
+    private static void outputBehindPeek() {
+        TransputerNet net = withHost(0);
+        Code.sendBytes(net, 1, 0x00, 0x80);
+        boot(net, new Code().f(Code.AJW, 20).stack(33500, 32768, 1).opr(11).toBytes());
+        net.put(0, 33500, 0x77);
+        net.run(500);
+        Check.due("the peek, low", net.out(0), 0);
+        Check.due("the peek, high", net.out(1), 128);
+        Check.due("the process's byte", net.out(2), 0x77);
     }
 
     private static void shortest() {

@@ -10,6 +10,8 @@ public final class ChannelTest {
         waitsAndMeets(7, 11);
         waitsAndMeets(11, 7);
         bytesAndWords();
+        bytesToOneThatWaits();
+        mostBytes();
         tooLong();
         ofNoBytes();
         resetOfAWord();
@@ -80,6 +82,30 @@ public final class ChannelTest {
                     count == 1 ? 0xFF34 : 0x1234);
             Check.due("the sender is ready", net.register(0, 9), Code.W);
             Check.due("the receiver went on", net.register(0, 0), 6);
+        }
+    }
+
+    private static void bytesToOneThatWaits() {
+        for (int operation = 14; operation <= 15; operation++) {
+            Code first = new Code().ldc(OTHER).opr(57).stack(TO, CHANNEL, 2).opr(7);
+            Code second = new Code().stack(8, CHANNEL, 0x1234).opr(operation).ldc(6);
+            TransputerNet net = prepared(first, 0, second);
+            net.put(0, TO, -1);
+            net.run(first.size() + second.size());
+            Check.due("as many as are sent", Code.word(net, 0, TO),
+                    operation == 14 ? 0xFF34 : 0x1234);
+            Check.due("and both go on", net.register(0, 0), 6);
+            Check.due("popped", net.register(0, 1), 8);
+        }
+    }
+
+    private static void mostBytes() {
+        for (int operation = 7; operation <= 11; operation += 4) {
+            Code code = new Code().stack(TO, CHANNEL, 4096).opr(operation);
+            TransputerNet net = prepared(code, 1, new Code());
+            net.run(code.size());
+            Check.due("4096 are not too many", net.register(0, 8), 0);
+            Check.due("it waits", net.register(0, 6), 2);
         }
     }
 

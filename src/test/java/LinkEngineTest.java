@@ -17,8 +17,11 @@ public final class LinkEngineTest {
         guardLeavesTheRow();
         disablingALink();
         resetOutput();
+        lateAcknowledgement();
         resetInput();
+        resetInputIsFree();
         bothWays();
+        eleventhBit();
         wiredInThePacket();
         host();
         Check.finish();
@@ -80,6 +83,7 @@ public final class LinkEngineTest {
         net.run(1);
         Check.due("a byte came", net.link(1, 2, 1), 1);
         Check.due("to its address", net.peek(1, TO), 1);
+        Check.due("the receiver waits for the last one", net.register(1, 6), 2);
         Check.due("read none of the next", net.link(1, 2, 5), 0);
         Check.due("not acknowledged", net.link(0, 1, 0), 2);
         net.run(1);
@@ -108,7 +112,11 @@ public final class LinkEngineTest {
             net = in.done(1);
             Check.due("in from an output's address", net.link(0, link, 1), 5);
         }
-        TransputerNet net = new Code().stack(8, 32768, 0x1234).opr(15).done(1);
+        TransputerNet net = new Code().stack(8, 32768, 0x1234).opr(14).done(1);
+        Check.due("outbyte to a link", net.link(0, 0, 0), 1);
+        net = new Code().stack(8, 32784, 1).opr(11).done(1);
+        Check.due("32784 is no link's", Code.word(net, 0, 32784), Code.W | 1);
+        net = new Code().stack(8, 32768, 0x1234).opr(15).done(1);
         Check.due("outword to a link", net.link(0, 0, 0), 2);
         Check.due("outword to a link, W[0]", Code.word(net, 0, Code.W), 0x1234);
         Check.due("outword to a link pops", net.register(0, 0), 8);
@@ -274,6 +282,49 @@ public final class LinkEngineTest {
         Check.due("without a process", net.register(0, 0), MINT);
     }
 
+    /** The byte of the one that was reset is acknowledged when the next one waits already. */
+    private static void lateAcknowledgement() {
+        Code sender = new Code().ldc(OTHER | 1).opr(57).stack(DATA, 32770, 5).opr(11);
+        Code second = new Code().ldc(32770).opr(18).stack(DATA + 4, 32770, 1).opr(11).ldc(9).stop();
+        Code receiver = pause(new Code(), 80).stack(TO, 32780, 2).opr(7).ldc(8).stop();
+        TransputerNet net = pair(sender, receiver);
+        Code.setWord(net, 0, OTHER - 2, 33300);
+        second.load(net, 0, 33300);
+        net.run(80);
+        Check.due("the new one has its byte to go", net.link(0, 1, 0), 1);
+        Check.due("but puts nothing", net.link(0, 1, 4), 0);
+        net.run(receiver.size() - 80);
+        Check.due("the acknowledgement counts for no other", net.link(0, 1, 0), 1);
+        net.run(2);
+        Check.due("now it goes", net.link(0, 1, 4) > 0, true);
+        net.run(40);
+        Check.due("the old byte", net.peek(1, TO), 1);
+        Check.due("the new byte", net.peek(1, TO + 1), 5);
+        Check.due("the new one went on", net.register(0, 0), 9);
+    }
+
+    /** The bit behind the eight is 1 here: the other's acknowledgement, in a line laid too late. */
+    private static void eleventhBit() {
+        TransputerNet net = new TransputerNet(2);
+        Code first = new Code().ldc(OTHER | 1).opr(57).stack(TO, 32776, 1).opr(7);
+        Code second = new Code().stack(DATA, 32768, 1).opr(11);
+        first.begin(net, 0, 1);
+        Code.setWord(net, 0, OTHER - 2, 33300);
+        second.load(net, 0, 33300);
+        net.put(0, DATA, 0b0000_1110);
+        int wired = first.size() + second.size() + 2;
+        Code other = new Code().stack(DATA, 32768, 1).opr(11);
+        Code late = pause(new Code(), wired - other.size()).stack(DATA, 32768, 1).opr(11);
+        late.begin(net, 1, 1);
+        net.run(wired);
+        Check.due("two bits put", net.link(0, 0, 4), 2);
+        Check.due("none put", net.link(1, 0, 4), 0);
+        net.wire(0, 0, 1, 0);
+        net.run(12);
+        Check.due("eight bits of the byte alone", net.link(1, 0, 2), 1);
+        Check.due("the acknowledgement began", net.link(0, 0, 4), 1);
+    }
+
     private static void resetInput() {
         Code first = new Code().ldc(OTHER).opr(57).stack(TO, 32778, 5).opr(7);
         Code second = new Code().ldc(32776).opr(18).ldc(32778).opr(18);
@@ -300,6 +351,23 @@ public final class LinkEngineTest {
         Check.due("never acknowledged", net.link(0, 1, 0), 1);
         TransputerNet guard = new Code().opr(67).ldc(32780).ldc(1).opr(72).ldc(32780).opr(18).done(1);
         Check.due("its guard is gone", guard.link(0, 2, 3), 0);
+    }
+
+    private static void resetInputIsFree() {
+        Code first = new Code().ldc(OTHER | 1).opr(57).stack(TO, 32776, 5).opr(7);
+        Code second = new Code().ldc(32776).opr(18).stack(TO + 8, 32776, 1).opr(7).ldc(9).stop();
+        TransputerNet net = new TransputerNet(1);
+        net.wire(0, 0, -1, 0);
+        first.begin(net, 0, 1);
+        Code.setWord(net, 0, OTHER - 2, 33300);
+        second.load(net, 0, 33300);
+        net.run(first.size() + second.size() - 3);
+        Check.due("another may come to it", net.register(0, 8), 0);
+        Check.due("for one byte", net.link(0, 0, 1), 1);
+        net.send(0x55, 1);
+        net.run(20);
+        Check.due("its byte", net.peek(0, TO + 8), 0x55);
+        Check.due("it went on", net.register(0, 0), 9);
     }
 
     /** An acknowledgement goes ahead of the next byte, never inside a packet. */

@@ -47,6 +47,7 @@ public final class OperationTest {
         stack("stnl", new Code().stack(3, 4, 33000).f(Code.STNL, 2).done(1), 3, 3, 3);
         stack("ldnl", new Code().stack(3, 4, 33001).f(Code.STNL, 2).ldc(33000).f(Code.LDNL, 2).done(1),
                 4, 3, 3);
+        stack("ldnl of the first word", new Code().ldc(M).f(Code.LDNL, 0).done(1), M, 0, 0);
         stack("adc", new Code().stack(3, 4, 5).f(Code.ADC, -7).done(1), 65534, 4, 3);
         TransputerNet over = new Code().stack(3, 4, 32767).f(Code.ADC, 1).done(1);
         stack("adc over", over, M, 4, 3);
@@ -231,6 +232,9 @@ public final class OperationTest {
         op(26, 65534, 65535, 65535, 65535, 65534, 65534, 0);
         op(29, 3, 4, 5, 5, 0, 4, 0);
         op(29, 3, 4, M, M, 65535, 4, 0);
+        op(29, 3, 4, 0, 0, 0, 4, 0);
+        op(26, 0, 5, 1, 5, 0, 0, 0);
+        op(54, 65535, 65535, 32, 0, 0, 65535, 0);
         op(49, 65535, 65535, 65535, 0, 65535, 65535, 0);
         op(49, 3, 256, 257, 259, 1, 3, 0);
         op(53, 0x1234, 0x5678, 4, 0x4567, 0x0123, 0x1234, 0);
@@ -254,6 +258,7 @@ public final class OperationTest {
         op(19, 3, 65535, 5, 65535, 3, 3, 1);
         op(41, 3, 4, 5, 1, 5, 4, 0);
         op(76, 3, 0, 5, 5, 3, 3, 0);
+        op(76, 3, 0, 0, 0, 3, 3, 0);
         op(76, 3, 65535, 5, 5, 3, 3, 1);
         op(76, 3, 65535, M, M, 3, 3, 0);
         op(76, 3, 0, M, M, 3, 3, 1);
@@ -305,6 +310,8 @@ public final class OperationTest {
         code = new Code().stack(3, 4, 5).opr(27);
         net = code.done(1);
         stack("ldpi", net, Code.AT + code.size() + 5, 4, 3);
+        code = new Code().stack(3, 4, 65535).opr(27);
+        stack("ldpi is cut", code.done(1), Code.AT + code.size() - 1, 4, 3);
         stack("ldpri low", new Code().stack(3, 4, 5).opr(30).done(1), 1, 5, 4);
         stack("ldpri high", new Code().stack(3, 4, 5).opr(30).done(0), 0, 5, 4);
         net = new Code().stack(3, 4, 34001).opr(60).done(1);
@@ -372,6 +379,7 @@ public final class OperationTest {
         Check.due("-32768 less 1 is above 0", Code.word(net, 0, Code.W + 2), 1);
         net = new Code().ldc(0).stl(2).stack(3, Code.W + 2, 0).opr(33).done(1);
         Check.due("0 less 1 is not", Code.word(net, 0, Code.W + 2), 0);
+        stack("lend", net, 3, 3, 3);
         Check.due("but is counted", Code.word(net, 0, Code.W + 4), 65535);
     }
 

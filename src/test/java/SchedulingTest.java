@@ -107,22 +107,25 @@ public final class SchedulingTest {
         Check.due("with its SLICE", net.register(0, 15), made + 1);
     }
 
-    /** A clock makes the high one ready while O holds half an operand. */
+    /** A clock makes the high one ready while O holds a part of an operand. */
     private static void shelvedBetweenPrefixes() {
-        Code high = new Code().ldc(0).opr(43).ldc(15).stop();
-        TransputerNet net = new TransputerNet(1);
-        Code code = new Code().ldc(OTHER).opr(57).raw(0x40).raw(0x40);
-        while (code.size() < 17) {
-            code.raw(0x40);
+        for (int phase = 0; phase < 4; phase++) {
+            TransputerNet net = new TransputerNet(1);
+            Code code = new Code().ldc(OTHER).opr(57);
+            for (int k = 0; k < phase; k++) {
+                code.ldc(0);
+            }
+            for (int k = 0; k < 20; k++) {
+                code.raw(0x21).raw(0x21).raw(0x81);
+            }
+            code.stop().begin(net, 0, 1);
+            place(net, OTHER, 33000);
+            new Code().ldc(8).opr(43).raw(0x4F).stl(0).stop().load(net, 0, 33000);
+            net.run(code.size() + 11);
+            Check.due("all is executed", net.register(0, 6), 2);
+            Check.due("O of the high one began as 0", Code.word(net, 0, OTHER), 15);
+            Check.due("O of the low one came back", net.register(0, 0), 20 * 0x111);
         }
-        code.raw(0x21).raw(0x22).raw(0x23).raw(0x44);
-        code.begin(net, 0, 1);
-        place(net, OTHER, 33000);
-        high.load(net, 0, 33000);
-        for (int k = 0; k < 60 && net.register(0, 4) != Code.AT + 21; k++) {
-            net.run(1);
-        }
-        Check.due("O came back with it", net.register(0, 0), 0x1234);
     }
 
     private static void slices() {
@@ -208,9 +211,15 @@ public final class SchedulingTest {
         TransputerNet net = new Code().stack(7, 8, OTHER + 1).opr(28).done(1);
         queue("stlf", net, 11, OTHER, MINT);
         Check.due("stlf pops", net.register(0, 0), 8);
-        queue("stlb", new Code().ldc(OTHER + 1).opr(23).done(1), 11, MINT, OTHER);
-        queue("sthf", new Code().ldc(OTHER + 1).opr(24).done(0), 9, OTHER, MINT);
-        queue("sthb", new Code().ldc(OTHER + 1).opr(80).done(0), 9, MINT, OTHER);
+        net = new Code().stack(7, 8, OTHER + 1).opr(23).done(1);
+        queue("stlb", net, 11, MINT, OTHER);
+        Check.due("stlb pops", net.register(0, 0), 8);
+        net = new Code().stack(7, 8, OTHER + 1).opr(24).done(0);
+        queue("sthf", net, 9, OTHER, MINT);
+        Check.due("sthf pops", net.register(0, 0), 8);
+        net = new Code().stack(7, 8, OTHER + 1).opr(80).done(0);
+        queue("sthb", net, 9, MINT, OTHER);
+        Check.due("sthb pops", net.register(0, 0), 8);
         net = new Code().ldc(OTHER).opr(28).ldc(THIRD).opr(23).stack(7, 8, 34000).opr(61).done(0);
         Check.due("savel, FRONT", Code.word(net, 0, 34000), OTHER);
         Check.due("savel, BACK", Code.word(net, 0, 34002), THIRD);
