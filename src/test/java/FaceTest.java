@@ -158,6 +158,9 @@ public final class FaceTest {
         Check.due("W", net.register(0, 5), 65534);
         Check.due("PRIORITY", net.register(0, 6), 1);
         Check.due("it boots no more", net.register(0, 18), 0);
+        for (int what = 0; what < 4; what++) {
+            Check.due("A, B, C, O " + what, net.register(0, what), 0);
+        }
         Check.due("start again", net.start(0, 32804, 36000, 1), false);
         Check.due("start the other", net.start(1, 0, 0, 0), true);
         Check.due("its PRIORITY", net.register(1, 6), 0);
