@@ -659,7 +659,7 @@ public final class TransputerNet {
             }
         }
 
-        /** The byte that the bit ended, or ACKNOWLEDGED, or NOTHING_YET. */
+        /** The byte that the bit ended, or ACKNOWLEDGED if that is awaited, or NOTHING_YET. */
         int readNextBit() {
             int heard = other == null ? 0 : other.bit;
             if (bitsRead == 0) {
@@ -669,7 +669,7 @@ public final class TransputerNet {
             }
             if (bitsRead == 1 && heard == 0) {
                 bitsRead = 0;
-                return ACKNOWLEDGED;
+                return endOfAcknowledgement();
             }
             if (bitsRead >= 2 && bitsRead < DATA_BITS - 1) {
                 gathered |= heard << (bitsRead - 2);
@@ -680,6 +680,12 @@ public final class TransputerNet {
             }
             bitsRead = 0;
             return gathered;
+        }
+
+        private int endOfAcknowledgement() {
+            boolean isAwaited = waitsForAcknowledgement;
+            waitsForAcknowledgement = false;
+            return isAwaited ? ACKNOWLEDGED : NOTHING_YET;
         }
     }
 
@@ -721,10 +727,6 @@ public final class TransputerNet {
         }
 
         private void acknowledge() {
-            if (!end.waitsForAcknowledgement) {
-                return;
-            }
-            end.waitsForAcknowledgement = false;
             if (isStray) {
                 isStray = false;
                 return;
@@ -868,17 +870,13 @@ public final class TransputerNet {
         void takeBit() {
             int told = end.readNextBit();
             if (told == ACKNOWLEDGED) {
-                acknowledge();
+                dropFirst();
             } else if (told != NOTHING_YET) {
                 keep(told);
             }
         }
 
-        private void acknowledge() {
-            if (!end.waitsForAcknowledgement) {
-                return;
-            }
-            end.waitsForAcknowledgement = false;
+        private void dropFirst() {
             firstWaiting = (firstWaiting + 1) % MEMORY_BYTES;
             waitingCount--;
         }
