@@ -5,6 +5,7 @@ final class Code {
     static final int AT = 32804;
     static final int W = 36000;
     static final int MINT = 32768;
+    private static final int LAST_EIGHT = 36856;
 
     static final int J = 0;
     static final int LDLP = 1;
@@ -122,11 +123,14 @@ final class Code {
     }
 
     static void setWord(TransputerNet net, int node, int address, int value) {
+        int base = Math.min(address, LAST_EIGHT);
         long v = 0;
-        for (int k = 7; k >= 2; k--) {
-            v = v << 8 | net.peek(node, address + k);
+        for (int k = 7; k >= 0; k--) {
+            int at = base + k - address;
+            int old = net.peek(node, base + k);
+            v = v << 8 | (at == 0 ? value & 255 : at == 1 ? value >> 8 & 255 : old);
         }
-        net.put(node, address, v << 16 | value & 65535);
+        net.put(node, base, v);
     }
 
     static boolean sendBytes(TransputerNet net, int... values) {
