@@ -239,6 +239,7 @@ public final class TransputerNet {
     /** 4096 bytes from address MINT on, eight to a cell so that many nets fit into one room. */
     private static final class Memory {
         private final long[] cells = new long[MEMORY_CELLS];
+        /** Never cleared: the node stops at the first time, and no later one counts. */
         private boolean wentBeyond;
 
         int byteAt(int address) {
@@ -286,12 +287,6 @@ public final class TransputerNet {
             for (int k = 0; k < count; k++) {
                 setByte(to + k, byteAt(from + k));
             }
-        }
-
-        boolean forgetBeyond() {
-            boolean was = wentBeyond;
-            wentBeyond = false;
-            return was;
         }
     }
 
@@ -529,7 +524,7 @@ public final class TransputerNet {
         }
 
         void stopIfBeyond() {
-            if (memory.forgetBeyond()) {
+            if (memory.wentBeyond) {
                 stopWith(BEYOND_MEMORY);
             }
         }

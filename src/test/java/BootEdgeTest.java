@@ -11,6 +11,7 @@ public final class BootEdgeTest {
         peekAtTheEdges();
         peekBeyond();
         lengths();
+        channelOfEachLink();
         oneByteATick();
         startWithAByteKept();
         bytesOfOneThatRuns();
@@ -124,6 +125,17 @@ public final class BootEdgeTest {
             Check.due("SLICE", net.register(0, 15), 1);
             Check.due("the last byte", net.peek(0, 32803 + length), 0x20 | length - 1 & 15);
             Check.due("nothing behind it", net.peek(0, 32804 + length), 0);
+        }
+    }
+
+    /** "C the LINK's input CHANNEL". */
+    private static void channelOfEachLink() {
+        for (int link = 0; link < 4; link++) {
+            TransputerNet net = new TransputerNet(1);
+            net.wire(0, link, -1, 0);
+            Code.sendBytes(net, 2, 0x20, 0x20);
+            net.run(ticks(3));
+            Check.due("the input of link " + link, net.register(0, 2), 32776 + 2 * link);
         }
     }
 

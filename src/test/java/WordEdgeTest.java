@@ -13,6 +13,7 @@ public final class WordEdgeTest {
         operandIsCut();
         countOfEndp();
         countOfLend();
+        oddBlocks();
         indexOfLend();
         startOfAProcess();
         checkedSums();
@@ -182,6 +183,21 @@ public final class WordEdgeTest {
         }
     }
 
+    /** "a word at an address (its lowest bit is left out)", whatever names that address. */
+    private static void oddBlocks() {
+        TransputerNet net = new Code().ldc(9).stl(2).stack(3, Code.W + 3, 0).opr(33).done(1);
+        Check.due("lend, the count", Code.word(net, 0, Code.W + 4), 8);
+        Check.due("lend, the index", Code.word(net, 0, Code.W + 2), 1);
+        Check.due("lend, the word behind", Code.word(net, 0, Code.W + 6), 0);
+        net = new Code().ldc(9).stl(1).ldc(Code.W + 1).opr(3).done(1);
+        Check.due("endp, the count", Code.word(net, 0, Code.W + 2), 8);
+        Check.due("endp, the word behind", Code.word(net, 0, Code.W + 4), 0);
+        net = new Code().ldc(OTHER).opr(28).stack(3, 4, Code.W + 1).opr(61).done(0);
+        Check.due("savel, FRONT", Code.word(net, 0, Code.W), OTHER);
+        Check.due("savel, BACK", Code.word(net, 0, Code.W + 2), M);
+        Check.due("savel, the word behind", Code.word(net, 0, Code.W + 4), 0);
+    }
+
     private static void indexOfLend() {
         TransputerNet net = new Code().ldc(9).stl(2).ldc(65535).stl(1)
                 .stack(3, Code.W + 2, 0).opr(33).done(1);
@@ -194,6 +210,10 @@ public final class WordEdgeTest {
         TransputerNet net = code.done(1);
         Check.due("I + B is cut", Code.word(net, 0, OTHER - 2), Code.AT + code.size() - 1);
         Check.due("an odd process is even", net.register(0, 11), OTHER);
+        code = new Code().stack(3, 7, OTHER).opr(13);
+        net = code.done(1);
+        Check.due("I + B of an even one", Code.word(net, 0, OTHER - 2), Code.AT + code.size() + 7);
+        Check.due("is all", Code.word(net, 0, OTHER - 4), 0);
         net = new Code().stack(3, 4, 0).opr(13).done(1);
         Check.due("the process 0 is ready", net.register(0, 12), 0);
         Check.due("but its I has no room", net.register(0, 8), 2);
