@@ -235,6 +235,7 @@ public final class SchedulingTest {
         Code code = new Code().ldc(OTHER).opr(28).ldc(34000).opr(23).stop();
         code.begin(net, 0, 0);
         Code.setWord(net, 0, OTHER - 4, THIRD + 1);
+        Code.setWord(net, 0, THIRD - 4, 34600);
         place(net, OTHER, 33000);
         place(net, THIRD, 33100);
         new Code().stop().load(net, 0, 33000);
@@ -243,5 +244,6 @@ public final class SchedulingTest {
         net.run(2);
         Check.due("W is even", net.register(0, 5), THIRD);
         Check.due("I of W[-1]", net.register(0, 4), 33101);
+        queue("the chain goes on from there", net, 11, 34600, 34000);
     }
 }
